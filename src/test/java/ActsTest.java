@@ -40,6 +40,12 @@ public final class ActsTest {
         Road.due("ship 0 is dry", road.ship(0, 5), 3);
         Road.due("dry ones stay as they are", road.ship(1, 5), 2);
         Road.due("two are dry", road.count(13), 2);
+        // Heights go by 0, 6, 3: the next day counts, not the last one.
+        DuneRoad next = Road.on("sea 2;train 0 0 063;ground 1 1;ship 0 9 0;ship 1 9 4");
+        Road.due("7 on the next day", next.sail(0, 1), -1);
+        Road.due("6 on the next day, too high from 1 and 4", next.sail(1, -1), -1);
+        next.sail(0, 0);
+        Road.due("from 6 to 4", next.sail(0, 1), 2);
         // Just as high as its own and its climb.
         DuneRoad step = Road.on("sea 2;ground 0 3;ground 1 7;ship 0 9 4;ship 0 9 3");
         Road.due("one too high", step.sail(1, 1), -1);
@@ -82,6 +88,9 @@ public final class ActsTest {
         Road.due("no day", road.count(6), 2);
         Road.due("dry", road.ship(2, 5), 1);
         Road.due("one that is dry", road.fill(2), -1);
+        DuneRoad just = Road.on("sea 2;ground 0 9;ground 1 10;well 0 9 2;well 1 9 2;ship 0 1 0;ship 1 1 0");
+        Road.due("just as high as its depth", just.fill(0), 0);
+        Road.due("one higher", just.fill(1), -1);
         DuneRoad last = Road.on("sea 2;well 0 9 2;ship 0 1 0");
         last.sail(0, 0);
         Road.due("no water but not dry", last.fill(0), 2);
@@ -157,8 +166,11 @@ public final class ActsTest {
             road.fence(i % 2, i / 2 % 2 == 0);
         }
         Road.due("20 at most", road.count(9), 20);
+        // Up to 24 acts ago: 0 up, 1 up, 0 away, 1 away and so on.
+        int[] fences = {0, 1, 3, 2};
         for (int i = 19; i >= 0; i--) {
             Road.due("undo", road.undo(), i);
+            Road.due("fences behind " + (i + 5) + " acts", road.count(7), fences[(i + 5) % 4]);
         }
         Road.due("no further", road.undo(), -2);
         // Five fences are not undone: 0 and 1 up, both away, 0 up.

@@ -61,6 +61,8 @@ public final class DrawsTest {
         Road.due("dry in each", road.drawn(0, 10, 6, 0), 10);
         Road.due("both", road.drawn(0, 10, 100, 0), 20);
         Road.due("storms", road.drawn(0, 10, 100, 2), 1000);
+        // 2, then 1, by the storm 0: dry by day 1.
+        Road.due("the last water is lost, too", Road.on("sea 2;ship 0 2 0;storm 1 1", "go 0").drawn(0, 1, 2, 0), 1);
         // It fills each day what the last one took.
         DuneRoad paying = Road.on("sea 2;well 0 9 3;ship 0 9 0;storm 1 1", "fill 1=1");
         Road.due("coins", paying.drawn(0, 2, 4, 1), 2 * 3 * 2 * 3);

@@ -25,6 +25,7 @@ public final class FencesTest {
         DuneRoad road = Road.on("sea 3;well 0 0 1;town 0 0 1;town 0 0 1");
         none(road, 2, 0, 0, 0);
         none(road, 64, 0, 0, 0);
+        none(Road.on("sea 3;town 0 0 1"), 1, 0, 0, 0);
         none(road, 256, 0, 0, 0);
         none(road, -1, 0, 0, 0);
         none(road, Integer.MIN_VALUE, 0, 0, 0);
@@ -96,6 +97,11 @@ public final class FencesTest {
         due(road, 1, 0, 0, 0, 0, 0);
         due(road, 1, 3, 3, 1, 1, 2);
         due(road, 1, 4, 5, 1, 1, 2);
+        DuneRoad first = Road.on("sea 2;ground 0 3;ground 1 1;well 1 3 1;town 0 0 1;town 1 4 1");
+        // The town may rise by 3, the well may not.
+        due(first, 16, 0, 0, 1, 1, 1);
+        due(first, 16 + 32, 0, 0, 1, 1, 1);
+        due(first, 1 + 16, 0, 0, 2, 3, 0);
         DuneRoad shut = Road.on("sea 2;ground 0 3;ground 1 9;well 0 0 1;well 1 5 1;town 1 9 1;town 1 12 1");
         // The well in cell 1 is open on no day, with or without.
         due(shut, 1, 0, 9, 1, 1, 16);

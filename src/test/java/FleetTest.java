@@ -24,6 +24,7 @@ public final class FleetTest {
         Road.due("town 2", road.rent(2, 0, 1), -1);
         Road.due("town 4", road.rent(4, 0, 1), -1);
         Road.due("town -1", road.rent(-1, 0, 1), -1);
+        Road.due("the last of four", Road.on("sea 2;town 0 0 1;town 0 0 2;town 0 0 3;town 0 0 4").rent(3, 0, 1), 4);
         road.fence(0, true);
         Road.due("with a fence", road.rent(0, 0, 10), 56);
         Road.due("behind it", road.rent(1, 0, 10), 0);

@@ -69,6 +69,10 @@ public final class RandomRunsTest {
             if (i == 0 || random.nextInt(150) == 0) {
                 feed(texts.sea(false));
                 same("sea", road.sea(), naive.sea());
+                same("image", road.image(3), naive.image(3));
+            } else if (road.count(13) == road.count(4) && random.nextInt(12) == 0) {
+                // Dry ships tell little.
+                same("back", road.back(3), naive.back(3));
             } else if (i < 5 || random.nextInt(150) == 0) {
                 feed(texts.rule(false));
                 int rule = road.rule();
@@ -139,7 +143,7 @@ public final class RandomRunsTest {
             }
             case 12, 13 -> same("dig", road.dig(a = cell(), b = to(1, random.nextBoolean() ? 5 : 20), c = to(1, 30)), naive.dig(a, b, c));
             case 14, 15, 16 -> same("undo", road.undo(), naive.undo());
-            case 17 -> same("run", road.run(a = to(0, Math.max(1, road.count(5)) - 1), b = random.nextInt(30) == 0 ? 100 : to(1, random.nextInt(4) == 0 ? 100 : 4)), naive.run(a, b));
+            case 17 -> same("run", road.run(a = to(0, Math.max(1, road.count(5)) - 1), b = to(1, random.nextInt(10) == 0 ? 100 : 4)), naive.run(a, b));
             case 18 -> same("round", road.round(), naive.round());
             case 19 -> same("again", road.again(a = place(), b = day()), naive.again(a, b));
             case 20 -> same("share", road.share(a = place(), b = to(0, 1)), naive.share(a, b));

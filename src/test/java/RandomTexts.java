@@ -30,6 +30,12 @@ final class RandomTexts {
         StringBuilder text = new StringBuilder("sea").append(blanks(false)).append(number(cells, cells, wild));
         int clauses = wild && random.nextInt(6) == 0 ? to(30, 42) : to(0, 14);
         int[] counts = new int[7];
+        for (int i = 0; !wild && i < 4 && random.nextInt(8) != 0; i++) {
+            int kind = i % 2 == 0 ? 5 : 3;
+            counts[kind]++;
+            text.append(';');
+            clause(text, kind, cells, false);
+        }
         for (int i = 0; i < clauses; i++) {
             int kind = to(wild && random.nextInt(20) == 0 ? 0 : 1, 6);
             int limit = new int[] {0, 3, 40, 4, 4, 4, 1}[kind];

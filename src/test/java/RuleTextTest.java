@@ -62,6 +62,8 @@ public final class RuleTextTest {
         wrong("fill 1", 6, 0);
         wrong("fill 1 and 2=2", 7, 0);
         wrong("fill 1=", 7, 0);
+        wrong("fill 1<=", 8, 0);
+        wrong("fill 1>=", 8, 0);
         wrong("fill 1==1", 7, 0);
         wrong("fill 1=<1", 7, 0);
         wrong("fill 1< =1", 8, 0);
@@ -91,6 +93,8 @@ public final class RuleTextTest {
     private static void depth() {
         right("fill " + "[".repeat(10) + "1=1" + "]".repeat(10));
         wrong("fill " + "[".repeat(11) + "1=1" + "]".repeat(11), 15, 2);
+        right("go 1 if " + "[".repeat(10) + "1=1" + "]".repeat(10));
+        wrong("go 1 if " + "[".repeat(11) + "1=1" + "]".repeat(11), 18, 2);
         right("fill " + "not ".repeat(10) + "1=1");
         wrong("fill " + "not ".repeat(11) + "1=1", 45, 2);
         right("fill " + "not [".repeat(5) + "1=1" + "]".repeat(5));

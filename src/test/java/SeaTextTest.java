@@ -73,6 +73,7 @@ public final class SeaTextTest {
         wrong("sea", 3, 0);
         wrong("sea  ", 5, 0);
         wrong("seas 4", 0, 0);
+        wrong("seaz 4", 0, 0);
         wrong(" sae 4", 1, 0);
         wrong("Sea 4", 0, 0);
         wrong("seA 4", 0, 0);

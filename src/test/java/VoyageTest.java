@@ -48,6 +48,12 @@ public final class VoyageTest {
         due(road, 0, 4, 2, 0, 1, 0);
         // Cell 1 is too high.
         due(road, 0, 0, -3, -3, -3, -3);
+        DuneRoad climbing = Road.on("sea 3;ground 1 4;ground 2 8;ship 0 2 4;ship 0 2 3;ship 0 1 4");
+        due(climbing, 0, 2, 2, 0, 1, 0);
+        due(climbing, 1, 1, -3, -3, -3, -3);
+        // The last water is enough for one more cell.
+        due(climbing, 2, 1, 1, 0, 1, 0);
+        due(climbing, 2, 2, -3, -3, -3, -3);
     }
 
     private static void waiting() {
@@ -76,6 +82,13 @@ public final class VoyageTest {
         road.sail(0, 0);
         // No water: it fills first, 4 * 5.
         due(road, 0, 4, 8, 20, 1, 1);
+        // Where no well is nothing is filled: it must, in cell 1, with no water left.
+        DuneRoad next = Road.on("sea 4;well 1 9 1;well 3 9 1;ship 0 3 0;ship 1 2 0");
+        next.sail(0, 0);
+        next.sail(0, 0);
+        due(next, 0, 3, 5, 3, 1, 0);
+        // Without water, at a coin each.
+        due(next, 1, 3, 4, 2, 1, 1);
         DuneRoad two = Road.on("sea 3;well 0 9 5;well 0 9 2;well 0 1 1;ground 0 2;ship 0 2 0");
         two.sail(0, 0);
         two.sail(0, 0);
@@ -130,6 +143,12 @@ public final class VoyageTest {
         Road.due("300 days are not too many", last.voyage(0, 1, 0), 300);
         DuneRoad beyond = Road.on(String.format(sea, 22));
         // d = 15 mod 19 (3 is the shift): 319 = 16 * 19 + 15.
+        // d = 300 is 15 mod 19, and 0 mod 20.
+        String one = "sea 2;train 0 4 0000000000000000009;train 0 19 00000000000000000009;ground 1 18;well 0 0 1;ship 0 30 0";
+        Road.due("301 are", Road.on(one.replace("train 0 4", "train 0 3")).voyage(0, 1, 0), -3);
+        DuneRoad soon = Road.on(one.replace("train 0 4", "train 0 3"));
+        soon.sail(0, 0);
+        Road.due("300 from day 1 on", soon.voyage(0, 1, 0), 301);
         Road.due("320 are", Road.on(String.format(sea, 3)).voyage(0, 1, 0), -3);
         Road.due("a shift above the period", beyond.voyage(0, 1, 0), -3);
     }

@@ -56,10 +56,16 @@ public final class WreckTest {
         road.sight(0, true);
         Road.due("8 and on", road.masts(1), 53);
         road.sight(2, false);
+        Road.due("3 fits cell 0", road.wreck(3), 9);
+        Road.due("7 fits cell 3", road.wreck(7), 8);
         Road.due("0 to 3", road.masts(0), 4);
         Road.due("8 and on, but below 2", road.masts(1), 0);
         Road.due("4 and on, but below 0", road.masts(2), 0);
         Road.due("2 to 7", road.masts(3), 6);
+        road.sight(-1, true);
+        road.sight(2, false);
+        Road.due("one that did not show", road.masts(3), 8);
+        Road.due("one that did not show", road.masts(2), 0);
     }
 
     private static void shows() {
