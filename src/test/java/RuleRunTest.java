@@ -101,6 +101,7 @@ public final class RuleRunTest {
         no("1>=2");
         yes("3>2");
         no("2>2");
+        yes("1<2 and 1<=1 and 1=1 and 2>=1 and 2>1");
         yes("1=1 or 1=2 and 1=2");
         no("[1=1 or 1=2] and 1=2");
         yes("not 1=2 and 1=1");
