@@ -65,8 +65,9 @@ public final class DuneRoad {
     private static final int PRICE = 20;
     private static final int PAID = 21;
 
-    // Signs are told by their byte; those of two bytes by the first one and this.
-    private static final int OR_EQUAL = 64;
+    // Signs are told by their byte; those of two bytes by the first one and this, which is above all bytes:
+    // so no byte alone can stand for one of these.
+    private static final int OR_EQUAL = 256;
     private static final int AT_MOST = '<' + OR_EQUAL;
     private static final int AT_LEAST = '>' + OR_EQUAL;
 

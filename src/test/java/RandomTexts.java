@@ -166,7 +166,7 @@ final class RandomTexts {
         String signs = "abgiort0129 ;[]<>=+-*/%,A\t\0" + (char) 255;
         for (int i = 0; i < times && spoilt.length() > 0; i++) {
             int at = random.nextInt(spoilt.length());
-            char sign = signs.charAt(random.nextInt(signs.length()));
+            char sign = random.nextInt(4) == 0 ? (char) random.nextInt(256) : signs.charAt(random.nextInt(signs.length()));
             switch (random.nextInt(4)) {
                 case 0 -> spoilt.setCharAt(at, sign);
                 case 1 -> spoilt.insert(at, sign);

@@ -67,6 +67,12 @@ public final class RuleTextTest {
         wrong("fill 1==1", 7, 0);
         wrong("fill 1=<1", 7, 0);
         wrong("fill 1< =1", 8, 0);
+        wrong("fill 1> =1", 8, 0);
+        wrong("fill cell|3", 9, 0);
+        wrong("fill cell~3", 9, 0);
+        wrong("fill cell|3 " + "\0".repeat(8), 9, 0);
+        wrong("go 1 if 1|1", 9, 0);
+        wrong("fill [1~1]", 7, 0);
         wrong("fill 1<>1", 7, 0);
         wrong("fill 1<2<3", 8, 0);
         wrong("fill on=1]", 9, 0);
