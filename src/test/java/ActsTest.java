@@ -6,6 +6,7 @@ public final class ActsTest {
         filling();
         fencing();
         digging();
+        diggingsByDays();
         undoing();
         undoingDiggings();
         Road.finish();
@@ -136,6 +137,25 @@ public final class ActsTest {
         Road.due("two more are over", road.count(8), 6);
         Road.due("height", road.height(1, 2), 3);
         Road.due("no sea", new DuneRoad().dig(0, 1, 1), -1);
+    }
+
+    private static void diggingsByDays() {
+        DuneRoad road = Road.on("sea 2;ground 0 9;ground 1 9;ship 0 30 0");
+        road.dig(0, 1, 2);
+        road.sail(0, 0);
+        road.dig(1, 2, 3);
+        road.dig(1, 4, 1);
+        int[] due = {9, 3, 7, 7, 9};
+        for (int day = 0; day < 5; day++) {
+            Road.due("height on day 1 of day " + day, road.height(1, day), due[day]);
+        }
+        road.sail(0, 0);
+        // The first and the last one are over; the other one lasts on days 1 to 3.
+        int[] then = {9, 7, 7, 7, 9};
+        for (int day = 0; day < 5; day++) {
+            Road.due("height on day 2 of day " + day, road.height(1, day), then[day]);
+            Road.due("height of cell 0", road.height(0, day), 9);
+        }
     }
 
     private static void undoing() {

@@ -5,6 +5,7 @@ public final class ImagesTest {
         all();
         whatStays();
         undoing();
+        manyActs();
         noSea();
         Road.finish();
     }
@@ -96,6 +97,25 @@ public final class ImagesTest {
         Road.due("two", road.count(9), 2);
         Road.due("undo", road.undo(), 1);
         Road.due("fence", road.count(7), 1);
+    }
+
+    private static void manyActs() {
+        DuneRoad road = Road.on("sea 2;ship 0 30 9");
+        for (int i = 0; i < 25; i++) {
+            road.sail(0, 0);
+        }
+        Road.due("image of all that can be undone", road.image(0), 25);
+        for (int time = 0; time < 2; time++) {
+            for (int i = 19; i >= 0; i--) {
+                Road.due("undo", road.undo(), i);
+                Road.due("day", road.count(6), 5 + i);
+            }
+            Road.due("none more", road.undo(), -2);
+            Road.due("back", road.back(0), 25);
+        }
+        Road.due("one more", road.sail(0, 0), 26);
+        Road.due("undo", road.undo(), 19);
+        Road.due("day", road.count(6), 25);
     }
 
     private static void noSea() {

@@ -14,6 +14,9 @@ public final class RandomRunsTest {
         for (int seed = from; seed <= to && Road.wrong == 0; seed++) {
             faults(seed);
             run(seed);
+            if (seed % 10 == 0) {
+                late(seed);
+            }
         }
         Road.finish();
     }
@@ -81,6 +84,24 @@ public final class RandomRunsTest {
             } else {
                 call(random.nextInt(44));
             }
+        }
+    }
+
+    /** Calls about the last days that there are: a ship that fills each day gets there. */
+    private static void late(int seed) {
+        start(seed);
+        feed("sea 5;train 1 2 0312;train 2 1 20413;ground 2 1;well 0 60 1;well 4 4 2;town 2 5 5;ship 0 9 5;ship 4 12 9;storm 1 3");
+        same("sea", road.sea(), naive.sea());
+        for (String rule : new String[] {"fill 1=1", "fill water<4;go day%3-1", "go 1 if on<=height;go 0-1"}) {
+            feed(rule);
+            same("rule", road.rule(), naive.rule());
+        }
+        for (int i = 0; i < 99; i++) {
+            same("run", road.run(0, 100), naive.run(0, 100));
+        }
+        same("run", road.run(1, 60 + seed % 39), naive.run(1, 60 + seed % 39));
+        for (int i = 0; i < 300; i++) {
+            call(random.nextInt(44));
         }
     }
 

@@ -177,5 +177,15 @@ public final class SeaTextTest {
         Road.due("nothing is left of the faulty one", road.height(0, 0), 0);
         Road.due("no ships are left of it", road.count(4), 0);
         Road.due("no storm is left of it", road.count(14), 0);
+        Road.due("no storm is left of it", road.count(15), 1);
+        Road.due("no trains are left of it", road.round(), 1);
+        Road.feed(road, "sea 5;train 3 3 99999;storm 2 3;ship 5 1 1");
+        Road.due("fault", road.sea(), Road.fault(37, 1));
+        Road.feed(road, "sea 4;train 0 0 12");
+        Road.due("behind it", road.sea(), 4);
+        Road.due("its own greatest height", road.train(0, 3), 2);
+        Road.due("its own round", road.round(), 2);
+        Road.due("its own crest", road.crest(0, 0), 1);
+        Road.due("no storm", road.storms(3, 0, 1), 1);
     }
 }

@@ -5,6 +5,7 @@ public final class TapeTest {
         feeding();
         ending();
         reading();
+        fullOfSigns();
         Road.finish();
     }
 
@@ -66,5 +67,20 @@ public final class TapeTest {
         Road.due("a seventh rule", road.rule(), -1);
         Road.due("nothing happens", road.count(17), 2);
         Road.due("six rules", road.count(5), 6);
+    }
+
+    /** As many pieces as there can be: each byte of a full tape is one of its own. */
+    private static void fullOfSigns() {
+        for (String sign : new String[] {";", "=", "[", "]", "\0", "a;", "1+", " +"}) {
+            String text = sign.repeat(400 / sign.length());
+            Road.due("sea of 400 bytes " + sign, Road.sea(text), Road.fault(text.startsWith(" ") ? 1 : 0, 0));
+            Road.due("rule of 400 bytes " + sign, Road.rule(text), Road.fault(text.startsWith(" ") ? 1 : 0, 0));
+        }
+        String blanks = " ".repeat(394);
+        Road.due("sea at the tape's end", Road.sea(blanks + " sea 4"), 4);
+        Road.due("sea that the tape's end cuts", Road.sea(blanks + "   sea"), Road.fault(400, 0));
+        Road.due("rule at the tape's end", Road.rule(blanks + "  go 1"), 0);
+        Road.due("rule that the tape's end cuts", Road.rule("fill" + " ".repeat(394) + "1<"), Road.fault(400, 0));
+        Road.due("rule that the tape's end cuts", Road.rule("fill" + " ".repeat(393) + "1<="), Road.fault(400, 0));
     }
 }
