@@ -6,7 +6,20 @@ public final class FencesTest {
         standing();
         days();
         whose();
+        placesThatAre();
         Road.finish();
+    }
+
+    /** A text with a fault told of a well in cell 1; the sea behind it has none there. */
+    private static void placesThatAre() {
+        DuneRoad road = new DuneRoad();
+        Road.feed(road, "sea 3;well 0 3 1;well 1 0 1;town 1 0 1;town 1 0 1;ship 3 1 1");
+        Road.due("fault", road.sea(), Road.fault(55, 1));
+        Road.feed(road, "sea 3;ground 0 3;well 0 0 1;town 1 0 1");
+        Road.due("sea", road.sea(), 3);
+        due(road, 1, 0, 9, 1, 1, 16);
+        Road.due("a well that is not", road.fences(2, 0, 9, 0), -1);
+        Road.due("a town that is not", road.fences(32, 0, 9, 0), -1);
     }
 
     private static void due(DuneRoad road, int places, int from, int to, int few, int set, int whose) {

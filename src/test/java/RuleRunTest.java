@@ -9,6 +9,7 @@ public final class RuleRunTest {
         fillsThenGoes();
         manyShips();
         dryShips();
+        mostClauses();
         Road.finish();
     }
 
@@ -29,6 +30,19 @@ public final class RuleRunTest {
         Road.due("one", road.count(9), 1);
         Road.due("100 days", road.run(0, 100), 100);
         Road.due("none", road.count(9), 0);
+    }
+
+    /** Twelve clauses of which none holds, and such of which the last alone does. */
+    private static void mostClauses() {
+        DuneRoad road = Road.on("sea 3;well 0 60 2;ship 0 9 9", "go 1 if 1=2" + ";go 1 if 1=2".repeat(11),
+                "fill 1=2" + ";fill 1=2".repeat(11), "go 1 if 1=2;fill 1=2" + ";fill 1=2;go 1 if 2=1".repeat(4) + ";go 1;fill 1=1");
+        Road.due("a day", road.run(0, 1), 1);
+        Road.due("it stays", road.ship(0, 0), 0);
+        Road.due("a day", road.run(1, 1), 2);
+        Road.due("it does not fill", road.ship(0, 4), 0);
+        Road.due("a day", road.run(2, 1), 3);
+        Road.due("it goes", road.ship(0, 0), 1);
+        Road.due("it fills", road.ship(0, 4), 4);
     }
 
     /** Whether a test holds for a ship of number 1 in cell 2 on day 3 with water 6 of 9, at a well of 5 coins. */
