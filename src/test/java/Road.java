@@ -30,7 +30,7 @@ final class Road {
         for (int from = 0; from < bytes.length; from += 20) {
             road.feed(four(bytes, from), four(bytes, from + 4), four(bytes, from + 8), four(bytes, from + 12), four(bytes, from + 16));
         }
-        road.end(before + bytes.length);
+        due("the bytes of a text that is fed", road.end(before + bytes.length), before + bytes.length);
     }
 
     static void feed(DuneRoad road, String text) {
