@@ -1468,6 +1468,8 @@ public final class DuneRoad {
 
     /** Those told to sail one behind the other, and the row that is least dear. */
     private static final class Fleet {
+        private static final int NO_ROW = 2147483647;
+
         int size;
         private final int[] days = new int[MOST_FLEET];
         private final int[] due = new int[MOST_FLEET];
@@ -1496,7 +1498,7 @@ public final class DuneRoad {
             int all = (1 << size) - 1;
             least[all] = 0;
             for (int ahead = all - 1; ahead >= 0; ahead--) {
-                least[ahead] = Integer.MAX_VALUE;
+                least[ahead] = NO_ROW;
                 for (int who = 0; who < size; who++) {
                     if ((ahead >> who & 1) == 0) {
                         least[ahead] = Math.min(least[ahead], duesWith(ahead, who));
@@ -1681,7 +1683,7 @@ public final class DuneRoad {
     private static final class Pilot {
         private static final int WATERS = MOST_TANK + 1;
         private static final int STATES = MOST_CELLS * WATERS;
-        private static final int NO_WAY = Integer.MAX_VALUE;
+        private static final int NO_WAY = 2147483647;
         // Coins, the first going and whether it fills first in one number: less is better.
         private static final int COIN = 6;
 

@@ -2,6 +2,8 @@
 public final class ActBoundsTest {
     public static void main(String[] args) {
         sailWhoAndWhere();
+        sailByOneCellAlone();
+        sailWhileTheOthersStay();
         sailToTheEnds();
         sailAsHighAsItCan();
         sailWithoutWater();
@@ -46,6 +48,31 @@ public final class ActBoundsTest {
                 road.rule();
             }
         };
+    }
+
+    /** -1, 0 and 1 alone, also where CELLS further off are there and low enough. */
+    private static void sailByOneCellAlone() {
+        Bounds.Start wide = on("sea 9;ship 4 9 20");
+        Bounds.taken("sail in a wide sea by way", wide, -1, 1, -1, (road, way) -> road.sail(0, way));
+        for (int way : new int[] {-5, -4, -3, 3, 4, 5, 255, 256, 257, -255, 65537}) {
+            Bounds.still("sail by " + way, wide, -1, road -> road.sail(0, way));
+        }
+    }
+
+    /** The others stay, also those that went a DAY ahead; each of them has 1 less. */
+    private static void sailWhileTheOthersStay() {
+        DuneRoad road = Road.on("sea 9;ship 4 30 0;ship 4 29 0;ship 4 28 0;ship 4 27 0");
+        int[][] sails = {{0, 1}, {1, -1}, {3, 1}, {2, 0}, {3, 1}, {0, -1}, {0, -1}, {1, 0}, {2, -1}};
+        int[] cells = {4, 4, 4, 4};
+        for (int day = 1; day <= sails.length; day++) {
+            int sailing = sails[day - 1][0];
+            Road.due("sail", road.sail(sailing, sails[day - 1][1]), day);
+            cells[sailing] += sails[day - 1][1];
+            for (int ship = 0; ship < 4; ship++) {
+                Road.due("cell of ship " + ship + " on day " + day, road.ship(ship, 0), cells[ship]);
+                Road.due("water of ship " + ship + " on day " + day, road.ship(ship, 1), 30 - ship - day);
+            }
+        }
     }
 
     /** No CELL beside the first and the last one. */

@@ -5,6 +5,7 @@ public final class ImageBoundsTest {
         neverMade();
         ofNoSea();
         allIsAsItWas();
+        eachPartOfTheFleet();
         whatCanBeUndone();
         imagesStay();
         rulesAndTapeStay();
@@ -101,6 +102,27 @@ public final class ImageBoundsTest {
         road.told(1, 1, 1);
         road.fleet(8, 7, 6);
         road.seed(424242);
+    }
+
+    /** DAYS, DUE and SPOIL, one changed at a time. */
+    private static void eachPartOfTheFleet() {
+        int[][] others = {{9, 3, 5}, {2, 9, 5}, {2, 3, 9}};
+        for (int[] other : others) {
+            DuneRoad road = Road.on("sea 2");
+            for (int i = 0; i < 6; i++) {
+                road.fleet(2, 3, 5);
+            }
+            // Six times 2 days, and the spoil of 0 to 5 ahead.
+            Road.due("dues", road.order(0), 3 * (6 * 2 + 15 * 5));
+            Road.due("image", road.image(0), 0);
+            road.fleet(-1, 0, 0);
+            for (int i = 0; i < 6; i++) {
+                road.fleet(other[0], other[1], other[2]);
+            }
+            Road.due("other dues", road.order(0), other[1] * (6 * other[0] + 15 * other[2]));
+            Road.due("back", road.back(0), 0);
+            Road.due("dues as they were", road.order(0), 3 * (6 * 2 + 15 * 5));
+        }
     }
 
     private static void whatCanBeUndone() {

@@ -106,7 +106,7 @@ public final class LanguageTest {
         while (imports.find()) {
             Road.due("import " + imports.group(1), Set.of("java.util.Arrays", "java.util.ArrayList", "java.util.List").contains(imports.group(1)), true);
         }
-        Set<String> allowed = Set.of("Math.max", "Math.min", "Math.abs", "Math.floorMod", "Integer.bitCount", "Integer.MAX_VALUE", "System.arraycopy", "Arrays.fill",
+        Set<String> allowed = Set.of("Math.max", "Math.min", "Math.abs", "Math.floorMod", "Integer.bitCount", "System.arraycopy", "Arrays.fill",
                 "Arrays.copyOf");
         Matcher calls = Pattern.compile("\\b(Math|Integer|Long|System|Arrays|String|Character|Objects)\\.(\\w+)").matcher(source);
         while (calls.find()) {

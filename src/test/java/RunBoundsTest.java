@@ -255,6 +255,16 @@ public final class RunBoundsTest {
         no("1=1 and 1=2");
         yes("1=1 or 1=1 and 1=2");
         no("[1=1 or 1=1] and 1=2");
+        yes("1=1 or [1=2]");
+        no("1=2 and [1=1]");
+        no("1=2 or [1=1 and 1=2]");
+        yes("1=1 and [1=2 or 1=1]");
+        yes("1=1 or 1=2 and [1=2]");
+        no("1=1 and 1=2 or [1=2 and 1=1]");
+        yes("[1=2] or [1=2] or [1=1]");
+        no("[1=1] and [1=1] and [1=2]");
+        no("1=2 and not 1=2");
+        yes("1=1 or not 1=1");
         yes("not 1=2 or 1=1");
         no("not [1=2 or 1=1]");
         yes("[[[[[[[[[[1=1]]]]]]]]]]");

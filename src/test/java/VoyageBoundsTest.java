@@ -8,6 +8,9 @@ public final class VoyageBoundsTest {
         asHighAsItCan();
         lastWater();
         fillsWhereItMay();
+        leastDearOfACell();
+        cellByCell();
+        fillsToItsTank();
         leastCoins();
         leastGoing();
         fillsFirst();
@@ -119,6 +122,40 @@ public final class VoyageBoundsTest {
         full.sail(0, 0);
         due("no water, at a well", full, 0, 2, 4, 18, 1, 1);
         Road.due("nothing was paid", full.ship(0, 4), 0);
+    }
+
+    /** Several wells in one CELL: of those that are open the least dear, whichever was told first. */
+    private static void leastDearOfACell() {
+        String[] wells = {"well 0 60 2;well 0 60 7", "well 0 60 7;well 0 60 2", "well 0 60 7;well 0 60 2;well 0 60 9", "well 0 60 2;well 0 60 2",
+            "well 0 1 2;well 0 0 1", "well 0 0 1;well 0 1 2"};
+        for (String each : wells) {
+            DuneRoad road = Road.on("sea 4;ground 0 1;" + each + ";ship 0 3 0");
+            road.sail(0, 0);
+            road.sail(0, 0);
+            due("2 of 2 coins by " + each, road, 0, 3, 5, 4, 1, 1);
+        }
+    }
+
+    /** A DAY for each CELL, on and back: with a well on the way it fills 2 of 4. */
+    private static void cellByCell() {
+        due("on", Road.on("sea 6;well 2 60 2;ship 0 4 0"), 0, 5, 5, 4, 1, 0);
+        due("back", Road.on("sea 6;well 3 60 2;ship 5 4 0"), 0, 0, 5, 4, -1, 0);
+        for (int far = 1; far <= 11; far++) {
+            due("back as far as its water", Road.on("sea 12;ship " + far + " " + far + " 0"), 0, 0, far, 0, -1, 0);
+        }
+    }
+
+    /** What it has behind the first filling is its TANK less 1 a DAY. */
+    private static void fillsToItsTank() {
+        DuneRoad road = Road.on("sea 6;well 0 60 1;well 2 60 5;ship 0 3 0");
+        road.sail(0, 0);
+        road.sail(0, 0);
+        // 2 for 1 coin each now, then 2 for 5 each.
+        due("twice", road, 0, 5, 7, 12, 1, 1);
+        DuneRoad back = Road.on("sea 6;well 5 60 1;well 3 60 5;ship 5 3 0");
+        back.sail(0, 0);
+        back.sail(0, 0);
+        due("twice on the way back", back, 0, 0, 7, 12, -1, 1);
     }
 
     /** The soonest first: then the least coins more. */
