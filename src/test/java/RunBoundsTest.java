@@ -10,6 +10,7 @@ public final class RunBoundsTest {
         firstGoThatHolds();
         someFillThatHolds();
         fillsIfItCan();
+        eachAtItsWell();
         dryShips();
         divisions();
         roundIn64Bits();
@@ -178,6 +179,22 @@ public final class RunBoundsTest {
         last.run(0, 1);
         Road.due("filled and gone", last.ship(0, 0), 1);
         Road.due("not dry", last.count(13), 0);
+    }
+
+    /** Each SHIP FILLS at the WELL of its own CELL, whatever the numbers of both are. */
+    private static void eachAtItsWell() {
+        DuneRoad road = Road.on("sea 4;well 3 60 2;well 2 60 3;well 1 60 5;well 0 60 7;ship 0 9 0;ship 1 8 0;ship 2 7 0;ship 3 6 0", "fill day=2");
+        road.run(0, 2);
+        int[] prices = {7, 5, 3, 2};
+        for (int ship = 0; ship < 4; ship++) {
+            Road.due("nothing paid by ship " + ship + " yet", road.ship(ship, 4), 0);
+            Road.due("water of ship " + ship, road.ship(ship, 1), 7 - ship);
+        }
+        road.run(0, 1);
+        for (int ship = 0; ship < 4; ship++) {
+            Road.due("coins of ship " + ship, road.ship(ship, 4), 2 * prices[ship]);
+            Road.due("water of ship " + ship, road.ship(ship, 1), 8 - ship);
+        }
     }
 
     private static void dryShips() {
