@@ -183,7 +183,7 @@ public final class RunBoundsTest {
 
     /** Each SHIP FILLS at the WELL of its own CELL, whatever the numbers of both are. */
     private static void eachAtItsWell() {
-        DuneRoad road = Road.on("sea 4;well 3 60 2;well 2 60 3;well 1 60 5;well 0 60 7;ship 0 9 0;ship 1 8 0;ship 2 7 0;ship 3 6 0", "fill day=2");
+        DuneRoad road = Road.on("sea 4;well 3 60 2;well 0 60 7;well 1 60 5;well 2 60 3;ship 0 9 0;ship 1 8 0;ship 2 7 0;ship 3 6 0", "fill day=2");
         road.run(0, 2);
         int[] prices = {7, 5, 3, 2};
         for (int ship = 0; ship < 4; ship++) {
